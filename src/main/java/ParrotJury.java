@@ -151,7 +151,7 @@ public final class ParrotJury {
     public int pass(int rounds) throws IllegalArgumentException {
         needRounds(rounds, MOST_ROUNDS);
         int taken = now.taken();
-        goRounds(now, rounds);
+        now.goRounds(seats, before, rounds);
         return now.taken() - taken;
     }
 
@@ -163,7 +163,7 @@ public final class ParrotJury {
             if (sayTheSame(would)) {
                 return rounds;
             }
-            would.goRound(seats, before);
+            would.goRounds(seats, before, 1);
         }
         return NONE;
     }
@@ -172,7 +172,7 @@ public final class ParrotJury {
         needRounds(rounds, MOST_ROUNDS);
         needParrot(parrot);
         would.copyFrom(now);
-        goRounds(would, rounds);
+        would.goRounds(seats, before, rounds);
         return would.word(parrot);
     }
 
@@ -390,18 +390,10 @@ public final class ParrotJury {
         return sum;
     }
 
-    // ---- rounds that go by
-
-    private void goRounds(Talk talk, int rounds) {
-        for (int gone = 0; gone < rounds; gone++) {
-            talk.goRound(seats, before);
-        }
-    }
-
     private int votesIfWhispered(int parrot, int word, int rounds) {
         would.copyFrom(now);
         would.takeFromCourt(parrot, word, MOST_SURE);
-        goRounds(would, rounds);
+        would.goRounds(seats, before, rounds);
         return votesIn(would, word);
     }
 
@@ -637,9 +629,17 @@ public final class ParrotJury {
             lasts.copyFrom(other.lasts);
         }
 
-        /** Lets one round go by; what was ahead of it is kept in earlier, for all go by that. */
-        void goRound(Seats seats, Talk earlier) {
-            earlier.copyFrom(this);
+        /** Lets rounds go by; earlier keeps what was ahead of each one, for all go by that. */
+        void goRounds(Seats seats, Talk earlier, int rounds) {
+            for (int gone = 0; gone < rounds; gone++) {
+                earlier.copyFrom(this);
+                hearAll(seats, earlier);
+                forgetAll(seats);
+                round++;
+            }
+        }
+
+        private void hearAll(Seats seats, Talk earlier) {
             int size = seats.size();
             for (int parrot = 0; parrot < size; parrot++) {
                 int heard = seats.heard(parrot);
@@ -647,10 +647,6 @@ public final class ParrotJury {
                     hear(parrot, heard, earlier);
                 }
             }
-            for (int parrot = 0; parrot < size; parrot++) {
-                forget(parrot, seats.memory(parrot) + 1);
-            }
-            round++;
         }
 
         private void hear(int parrot, int heard, Talk earlier) {
@@ -667,9 +663,13 @@ public final class ParrotJury {
             }
         }
 
-        private void forget(int parrot, int span) {
-            if (span > 0 && round % span == 0) {
-                sure.put(parrot, Math.max(sure.at(parrot) - 1, 0));
+        private void forgetAll(Seats seats) {
+            int size = seats.size();
+            for (int parrot = 0; parrot < size; parrot++) {
+                int span = seats.memory(parrot) + 1;
+                if (span > 0 && round % span == 0) {
+                    sure.put(parrot, Math.max(sure.at(parrot) - 1, 0));
+                }
             }
         }
     }

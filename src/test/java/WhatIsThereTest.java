@@ -51,6 +51,8 @@ public final class WhatIsThereTest {
         for (int what = 0; what < alone.length; what++) {
             Due.same("parrot(3, " + what + ")", jury.parrot(3, what), alone[what]);
         }
+        Due.same("listeners of 1", jury.parrot(1, 5), 1);
+        Due.same("listeners of 2", jury.parrot(2, 5), 1);
         jury.listen(3, 0);
         Due.same("listeners behind a drop", jury.parrot(0, 5), 2);
     }
@@ -163,6 +165,8 @@ public final class WhatIsThereTest {
         Due.same("left(3412)", jury.left(3412), 3);
         Due.same("left(1212)", jury.left(1212), 5);
         Due.same("left(0)", jury.left(0), 2);
+        Due.same("left(1299)", jury.left(1299), 3);
+        Due.same("left(9934)", jury.left(9934), 2);
         Due.same("left(9999)", jury.left(9999), 0);
         Due.same("left without parrots", new ParrotJury().left(0), 0);
         Due.same("left of all", juryOf(12).left(0), 24);

@@ -55,6 +55,9 @@ public final class WhatWouldBeTest {
         Due.same("agrees without parrots", new ParrotJury().agrees(), 0);
         Due.same("agrees of one", juryOf(1).agrees(), 0);
         Due.same("agrees of twelve", juryOf(12).agrees(), 0);
+        ParrotJury alone = juryOf(1);
+        alone.whisper(0, 1234, 2);
+        Due.same("agrees of one with a word", alone.agrees(), 0);
         ParrotJury jury = juryOf(2);
         jury.whisper(0, 9999, 1);
         jury.whisper(1, 9999, 7);
