@@ -232,6 +232,9 @@ public final class WhatWouldBeTest {
 
     private static void meanDivides() {
         Due.sameDouble("mean without parrots", new ParrotJury().mean(), 0.0);
+        ParrotJury alone = juryOf(1);
+        alone.whisper(0, 1, 7);
+        Due.sameDouble("mean of one", alone.mean(), 7.0);
         ParrotJury jury = juryOf(3);
         Due.sameDouble("mean of none sure", jury.mean(), 0.0);
         jury.whisper(0, 1, 3);
