@@ -2,34 +2,20 @@
 public final class RoundsTest {
     public static void main(String[] args) {
         alikeGrowsSure();
-        alikeGrowsSureAheadOfForgetting();
         surerKeepsAndWavers();
-        asSureTakesAlsoWhatIsAlike();
         lessSureTakesAndIsOneSure();
-        evenTakesFirstOddTakesLast();
         allGoByWhatWasAhead();
         sureIsAlsoReadAhead();
         aWayGrowsByOne();
-        aWayEndsAt99();
         forgettingGoesByMemory();
         theLoudestIsHeard();
         whoListensToNoneKeeps();
         roundsAreCounted();
-        manyRoundsAreManyTimesOne();
-        passRefuses();
         Due.end("RoundsTest");
     }
 
-    private static ParrotJury juryOf(int many, int memory) {
-        ParrotJury jury = new ParrotJury();
-        for (int i = 0; i < many; i++) {
-            jury.come(memory, 1);
-        }
-        return jury;
-    }
-
     private static void alikeGrowsSure() {
-        ParrotJury jury = juryOf(2, 9);
+        ParrotJury jury = Juries.of(2);
         jury.listen(0, 1);
         jury.whisper(0, 0, 3);
         int[] rounds = {1, 1, 4, 1, 1, 2, 1, 1};
@@ -41,18 +27,8 @@ public final class RoundsTest {
         Due.same("from the court still", jury.half(0, false, 1), -1);
     }
 
-    private static void alikeGrowsSureAheadOfForgetting() {
-        ParrotJury jury = juryOf(4, 9);
-        jury.listen(0, 1);
-        jury.listen(2, 3);
-        jury.whisper(2, 0, 9);
-        jury.pass(1);
-        Due.same("0 sure and alike in round 0", jury.parrot(0, 1), 0);
-        Due.same("9 sure and alike in round 0", jury.parrot(2, 1), 8);
-    }
-
     private static void surerKeepsAndWavers() {
-        ParrotJury jury = juryOf(2, 9);
+        ParrotJury jury = Juries.of(2);
         jury.listen(0, 1);
         jury.whisper(0, 1111, 5);
         jury.whisper(1, 2222, 3);
@@ -67,24 +43,8 @@ public final class RoundsTest {
         Due.same("takes", jury.parrot(0, 0), 2211);
     }
 
-    private static void asSureTakesAlsoWhatIsAlike() {
-        ParrotJury jury = juryOf(2, 9);
-        jury.pass(1);
-        jury.listen(0, 1);
-        jury.whisper(0, 3355, 4);
-        jury.whisper(1, 3344, 4);
-        Due.same("taken though alike", jury.pass(1), 1);
-        Due.same("its word stays", jury.parrot(0, 0), 3355);
-        Due.same("it is 1 sure", jury.parrot(0, 1), 1);
-        Due.same("it came from 1", jury.half(0, false, 1), 1);
-        Due.same("over 1", jury.half(0, false, 2), 1);
-        Due.same("taken again", jury.pass(1), 1);
-        Due.same("1 sure again", jury.parrot(0, 1), 1);
-        Due.same("taken in all", jury.count(5), 2);
-    }
-
     private static void lessSureTakesAndIsOneSure() {
-        ParrotJury jury = juryOf(2, 9);
+        ParrotJury jury = Juries.of(2);
         jury.pass(1);
         jury.listen(1, 0);
         jury.whisper(0, 1234, 9);
@@ -99,29 +59,15 @@ public final class RoundsTest {
         Due.same("1 sure less 1", jury.parrot(1, 1), 0);
     }
 
-    private static void evenTakesFirstOddTakesLast() {
-        ParrotJury jury = juryOf(12, 9);
-        for (int i = 1; i < 12; i++) {
-            jury.listen(i, 0);
-        }
-        jury.whisper(0, 4567, 9);
-        Due.same("taken by all", jury.pass(1), 11);
-        for (int i = 1; i < 12; i++) {
-            Due.same("word of " + i, jury.parrot(i, 0), i % 2 == 0 ? 4500 : 67);
-            Due.same("first half's origin of " + i, jury.half(i, false, 1), i % 2 == 0 ? 0 : -1);
-            Due.same("last half's origin of " + i, jury.half(i, true, 1), i % 2 == 0 ? -1 : 0);
-        }
-    }
-
     private static void allGoByWhatWasAhead() {
-        ParrotJury up = juryOf(5, 9);
+        ParrotJury up = Juries.of(5);
         up.listen(4, 2);
         up.listen(2, 0);
         up.whisper(0, 5500, 9);
         Due.same("taken upwards", up.pass(1), 1);
         Due.same("2 takes", up.parrot(2, 0), 5500);
         Due.same("4 heard what 2 said ahead", up.parrot(4, 0), 0);
-        ParrotJury down = juryOf(5, 9);
+        ParrotJury down = Juries.of(5);
         down.listen(0, 2);
         down.listen(2, 4);
         down.whisper(4, 5500, 9);
@@ -130,7 +76,7 @@ public final class RoundsTest {
     }
 
     private static void sureIsAlsoReadAhead() {
-        ParrotJury jury = juryOf(4, 9);
+        ParrotJury jury = Juries.of(4);
         jury.pass(1);
         jury.listen(2, 0);
         jury.listen(0, 1);
@@ -143,7 +89,7 @@ public final class RoundsTest {
     }
 
     private static void aWayGrowsByOne() {
-        ParrotJury jury = juryOf(7, 9);
+        ParrotJury jury = Juries.of(7);
         jury.listen(0, 2);
         jury.listen(2, 4);
         jury.listen(4, 6);
@@ -159,27 +105,9 @@ public final class RoundsTest {
         Due.same("from the court", jury.count(3), 11);
     }
 
-    private static void aWayEndsAt99() {
-        ParrotJury jury = juryOf(3, 9);
-        jury.listen(0, 2);
-        jury.listen(2, 0);
-        jury.whisper(0, 1111, 0);
-        jury.whisper(2, 2222, 0);
-        Due.same("taken in 98", jury.pass(98), 196);
-        Due.same("over 98", jury.half(0, false, 2), 98);
-        Due.same("word behind 98", jury.parrot(0, 0), 1111);
-        jury.pass(1);
-        Due.same("over 99", jury.half(0, false, 2), 99);
-        Due.same("word behind 99", jury.parrot(0, 0), 2211);
-        jury.pass(1);
-        Due.same("over 99 still", jury.half(0, false, 2), 99);
-        Due.same("over 99 still, the other one", jury.half(2, false, 2), 99);
-        Due.same("taken in all", jury.count(5), 200);
-    }
-
     private static void forgettingGoesByMemory() {
         for (int memory = 1; memory <= 9; memory++) {
-            ParrotJury jury = juryOf(1, memory);
+            ParrotJury jury = Juries.ofMemory(1, memory);
             jury.whisper(0, 1, 9);
             int due = 9;
             for (int round = 0; round < 120; round++) {
@@ -194,7 +122,7 @@ public final class RoundsTest {
     }
 
     private static void theLoudestIsHeard() {
-        ParrotJury jury = juryOf(5, 9);
+        ParrotJury jury = Juries.of(5);
         jury.listen(0, 1);
         jury.listen(0, 2);
         jury.listen(0, 3);
@@ -214,7 +142,7 @@ public final class RoundsTest {
     }
 
     private static void whoListensToNoneKeeps() {
-        ParrotJury jury = juryOf(3, 9);
+        ParrotJury jury = Juries.of(3);
         jury.listen(0, 1);
         jury.listen(0, 1);
         jury.whisper(0, 4444, 2);
@@ -237,38 +165,5 @@ public final class RoundsTest {
         Due.same("forgotten in round 201", jury.parrot(0, 1), 4);
         jury.pass(2);
         Due.same("kept in rounds 202 and 203", jury.parrot(0, 1), 4);
-    }
-
-    private static void manyRoundsAreManyTimesOne() {
-        ParrotJury once = ring();
-        ParrotJury often = ring();
-        int taken = 0;
-        for (int i = 0; i < 60; i++) {
-            taken += often.pass(1);
-        }
-        Due.same("taken in 60 rounds", once.pass(60), taken);
-        Due.same("digest behind 60 rounds", once.digest(), often.digest());
-    }
-
-    private static ParrotJury ring() {
-        ParrotJury jury = new ParrotJury();
-        for (int i = 0; i < 12; i++) {
-            jury.come(i % 9 + 1, i % 5 + 1);
-            jury.whisper(i, i * 811, i % 10);
-        }
-        for (int i = 0; i < 12; i++) {
-            jury.listen(i, (i + 1) % 12);
-            jury.listen(i, (i + 5) % 12);
-        }
-        return jury;
-    }
-
-    private static void passRefuses() {
-        ParrotJury jury = ring();
-        for (int bad : new int[] {0, 201, -1, Integer.MIN_VALUE, Integer.MAX_VALUE}) {
-            Due.illegal(jury, "pass(" + bad + ")", () -> jury.pass(bad));
-        }
-        jury.pass(200);
-        Due.same("the round behind pass(200)", jury.count(0), 200);
     }
 }
