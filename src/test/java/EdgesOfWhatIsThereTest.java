@@ -280,6 +280,8 @@ public final class EdgesOfWhatIsThereTest {
         Due.same("6 against 6, the smaller word first", Juries.ofWords(7, 8, 8, 8, 8, 8, 8, 7, 7, 7, 7, 7).verdict(), 7);
         Due.same("2 and 2 behind 1", Juries.ofWords(9, 5, 4, 4, 5).verdict(), 5);
         Due.same("1 each", Juries.ofWords(3, 2, 1).verdict(), 3);
+        Due.same("1 each, with 0 behind 9", Juries.ofWords(9, 0).verdict(), 9);
+        Due.same("1 each, with 0 ahead of 9", Juries.ofWords(0, 9).verdict(), 0);
     }
 
     // "Throws IllegalArgumentException if word is not 0 to 9999"
