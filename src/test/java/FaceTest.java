@@ -50,7 +50,24 @@ public final class FaceTest {
                 staticIsFinal(field);
             }
         }
+        Due.holds("there are at most twelve classes", face.getDeclaredClasses().length + 1 <= 12);
+        isSmall(face);
+        for (Class<?> inside : face.getDeclaredClasses()) {
+            isSmall(inside);
+        }
         Due.end("FaceTest");
+    }
+
+    /** LANGUAGE.md, rule 11: at most twenty fields beside the constants, at most seven parameters. */
+    private static void isSmall(Class<?> part) {
+        int fields = 0;
+        for (Field field : part.getDeclaredFields()) {
+            fields += Modifier.isStatic(field.getModifiers()) ? 0 : 1;
+        }
+        Due.holds(part + " has at most twenty fields", fields <= 20);
+        for (Method method : part.getDeclaredMethods()) {
+            Due.holds(method + " takes at most seven parameters", method.getParameterCount() <= 7);
+        }
     }
 
     private static void staticIsFinal(Field field) {
